@@ -1,0 +1,55 @@
+/** Counts the answers of one test that are not the ones that are due, and prints each of them. */
+final class Due {
+    /** A call whose exception is looked at. */
+    interface Call {
+        void run();
+    }
+
+    private int wrong;
+
+    void same(String what, long got, long want) {
+        if (got != want) {
+            wrong++;
+            System.out.println(what + " answered " + got + ", due is " + want);
+        }
+    }
+
+    void text(String what, String got, String want) {
+        if (!got.equals(want)) {
+            wrong++;
+            System.out.println(what + " is " + got + ", due is " + want);
+        }
+    }
+
+    void throwsA(Class<? extends RuntimeException> kind, String what, Call call) {
+        text(what + ": what it throws", thrownBy(call), kind.getSimpleName());
+    }
+
+    void noArgument(String what, Call call) {
+        throwsA(IllegalArgumentException.class, what, call);
+    }
+
+    void noState(String what, Call call) {
+        throwsA(IllegalStateException.class, what, call);
+    }
+
+    void notSupported(String what, Call call) {
+        throwsA(UnsupportedOperationException.class, what, call);
+    }
+
+    void finish() {
+        if (wrong != 0) {
+            System.out.println(wrong + " answers are not as due");
+            System.exit(1);
+        }
+    }
+
+    private static String thrownBy(Call call) {
+        try {
+            call.run();
+            return "nothing";
+        } catch (RuntimeException e) {
+            return e.getClass().getSimpleName();
+        }
+    }
+}
