@@ -381,7 +381,7 @@ public final class LockTable {
         for (int pass = 0; again && pass <= OWNERS; pass++) {
             again = false;
             int place = 0;
-            for (int looks = requests.waiting; looks > 0; looks--) {
+            for (int looks = requests.waiting; looks > 0 && place < requests.waiting; looks--) {
                 int owner = requests.line[place];
                 if (blockers(owner) != 0) {
                     place++;

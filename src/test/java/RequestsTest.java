@@ -24,10 +24,12 @@ public final class RequestsTest {
         rangeNeedsTable();
         rangeCovered();
         rangeAndTable();
+        rangeRequestsMeet();
         rangeWrong();
         escalate();
         escalateHeld();
         escalateWaits();
+        escalateOnce();
         escalateWrong();
         ninthRange();
         countsAndRights();
@@ -194,7 +196,28 @@ public final class RequestsTest {
         t.end(1);
         t.begin(1);
         DUE.same("3: the modes on the table are", t.table(1, 0, Plain.S), Plain.WAITS);
-        DUE.same("4: nor is a range against a request for the table", t.range(0, 0, 20, 20, Plain.X), Plain.GRANTED);
+        DUE.same("4: nor is a range against a request for the table", t.range(0, 0, -20, 20, Plain.X), Plain.GRANTED);
+        LockTable u = Plain.working(3);
+        u.table(0, 0, Plain.IX);
+        u.range(0, 0, 1, 9, Plain.X);
+        u.table(1, 0, Plain.IX);
+        u.range(1, 0, 0, 9, Plain.X);
+        DUE.same("3: nor a table against a request for a range", u.table(2, 0, Plain.IS), Plain.GRANTED);
+    }
+
+    private static void rangeRequestsMeet() {
+        LockTable t = Plain.working(4);
+        for (int owner = 0; owner < 4; owner++) {
+            t.table(owner, 0, Plain.IX);
+        }
+        t.range(0, 0, 10, 10, Plain.X);
+        t.range(1, 0, 5, 15, Plain.X);
+        DUE.same("4: past a request that has no key of it", t.range(2, 0, 1, 4, Plain.X), Plain.GRANTED);
+        DUE.same("4: nor above", t.range(2, 0, 16, 20, Plain.X), Plain.GRANTED);
+        DUE.same("4: not past one that has its highest key", t.range(2, 0, 3, 5, Plain.S), Plain.WAITS);
+        DUE.same("20: behind the request alone", t.behind(2), 0b0010);
+        DUE.same("4: nor its lowest", t.range(3, 0, 15, 15, Plain.S), Plain.WAITS);
+        DUE.same("20: behind the request, not the lock", t.behind(3), 0b0010);
     }
 
     private static void rangeWrong() {
@@ -241,8 +264,10 @@ public final class RequestsTest {
         t.escalate(0, 3);
         DUE.same("5: of an X range", t.mode(0, 3), Plain.X);
         DUE.same("5: ranges of another table stay", t.ranges(0, 4), 1);
+        t.table(0, 5, Plain.IX);
+        t.range(0, 5, 3, 3, Plain.X);
         t.escalate(0, 4);
-        DUE.same("5: and are looked at by themselves", t.mode(0, 4), Plain.SIX);
+        DUE.same("5: whatever ranges another table has", t.mode(0, 4), Plain.SIX);
     }
 
     private static void escalateHeld() {
@@ -287,8 +312,23 @@ public final class RequestsTest {
             ring.range(owner, 0, owner, owner, Plain.X);
         }
         ring.escalate(0, 0);
+        DUE.same("5: the older one waits", ring.state(0), Plain.WAITING);
         DUE.same("5: victim of a ring", ring.escalate(1, 0), Plain.VICTIM);
         DUE.same("5: keeps its locks", ring.ranges(1, 0), 1);
+    }
+
+    private static void escalateOnce() {
+        LockTable t = Plain.working(2);
+        t.table(0, 0, Plain.IS);
+        t.range(0, 0, 1, 1, Plain.S);
+        t.escalate(0, 0);
+        t.table(0, 1, Plain.IX);
+        t.range(0, 1, 1, 1, Plain.X);
+        t.table(1, 1, Plain.IS);
+        t.table(0, 1, Plain.X);
+        DUE.same("19: the next request is none", t.wants(0, 4), 0);
+        t.end(1);
+        DUE.same("3: and leaves the ranges", t.ranges(0, 1), 1);
     }
 
     private static void escalateWrong() {
@@ -354,6 +394,10 @@ public final class RequestsTest {
         }
         t.range(0, Plain.SIX + 1, 4, 4, Plain.U);
         DUE.same("17: the stronger one of both", t.right(0, Plain.SIX + 1, 4), Plain.U);
+        t.table(0, 8, Plain.IX);
+        t.range(0, 8, 5, 5, Plain.X);
+        t.range(0, 8, 4, 6, Plain.S);
+        DUE.same("17: whichever came first", t.right(0, 8, 5), Plain.X);
         DUE.noArgument("14: owner 8", () -> t.ranges(8, 0));
         DUE.noArgument("14: owner -1", () -> t.ranges(-1, 0));
         DUE.noArgument("14: table 16", () -> t.ranges(0, 16));

@@ -6,6 +6,7 @@ public final class TimeTest {
         limitAndTick();
         earlierTicksCount();
         firstCameFirst();
+        firstInLineIsNotFirst();
         grantsInTick();
         manyTicks();
         wrong();
@@ -69,6 +70,21 @@ public final class TimeTest {
         DUE.text("11: states", Plain.states(u), "11110000");
         DUE.same("11: the lock", u.mode(2, 0), Plain.IX);
         DUE.text("21: granted", Plain.grants(u), "2");
+    }
+
+    private static void firstInLineIsNotFirst() {
+        LockTable t = Plain.working(5);
+        t.table(3, 0, Plain.IX);
+        t.table(1, 0, Plain.IS);
+        t.table(0, 0, Plain.X);
+        t.table(2, 0, Plain.IX);
+        t.table(1, 0, Plain.S);
+        t.cancel(0);
+        // 2 came first and is behind 1 alone, which stands before it in the line.
+        DUE.text("18: the line", Plain.line(t), "12");
+        t.limit(1);
+        DUE.same("11: it is taken back before 1 is", t.tick(1), 2);
+        DUE.same("11: so it gets nothing", t.mode(2, 0), Plain.NONE);
     }
 
     private static void grantsInTick() {
