@@ -6,18 +6,24 @@ final class Due {
     }
 
     private int wrong;
+    private String sentence = "";
+
+    /** The promise and the sentence that the answers from here on are held against. */
+    void about(String newSentence) {
+        sentence = "[" + newSentence + "] ";
+    }
 
     void same(String what, long got, long want) {
         if (got != want) {
             wrong++;
-            System.out.println(what + " answered " + got + ", due is " + want);
+            System.out.println(sentence + what + " answered " + got + ", due is " + want);
         }
     }
 
     void text(String what, String got, String want) {
         if (!got.equals(want)) {
             wrong++;
-            System.out.println(what + " is " + got + ", due is " + want);
+            System.out.println(sentence + what + " is " + got + ", due is " + want);
         }
     }
 
@@ -44,7 +50,7 @@ final class Due {
         }
     }
 
-    private static String thrownBy(Call call) {
+    static String thrownBy(Call call) {
         try {
             call.run();
             return "nothing";

@@ -65,4 +65,42 @@ final class Plain {
             t.range(owner, table, 10L * i, 10L * i, mode);
         }
     }
+
+    /**
+     * An object with an owner in each state: 4, 6 and 7 are idle (4 has ended), 0 and 5 work, 1 waits, 2 is
+     * doomed and 3 prepared. Owner 0 has the keys 1 .. 9 of table 0 in X; the latest call granted 5 something.
+     */
+    static LockTable everyState() {
+        LockTable t = working(6);
+        t.table(0, 0, IX);
+        t.range(0, 0, 1, 9, X);
+        t.table(1, 1, X);
+        t.table(2, 2, X);
+        t.table(1, 2, S);
+        t.table(2, 1, S);
+        t.table(3, 3, X);
+        t.prepare(3);
+        t.table(4, 4, X);
+        t.table(5, 4, S);
+        t.end(4);
+        return t;
+    }
+
+    /** What the questions tell, of the tables 0 .. 4: some 200 calls of the 512 that an object has. */
+    static String picture(LockTable t) {
+        StringBuilder b = new StringBuilder();
+        b.append(t.all()).append(" line ").append(line(t)).append(" granted ").append(grants(t));
+        for (int owner = 0; owner < 8; owner++) {
+            b.append(" / ").append(t.state(owner)).append(' ').append(t.serial(owner));
+            b.append(' ').append(t.behind(owner));
+            for (int what = 0; t.state(owner) == WAITING && what < 6; what++) {
+                b.append(' ').append(t.wants(owner, what));
+            }
+            for (int table = 0; table < 5; table++) {
+                b.append(' ').append(t.mode(owner, table)).append(',').append(t.ranges(owner, table));
+                b.append(',').append(t.right(owner, table, 5));
+            }
+        }
+        return b.toString();
+    }
 }
