@@ -76,14 +76,10 @@ public final class LockTable {
         checkWorks(owner);
         startCall(owner);
         int held = locks.heldMode(owner, table);
-        if (held == NONE) {
-            if (isFull()) {
-                return IS_REFUSED;
-            }
-            requests.setTable(owner, table, mode, false);
-        } else {
-            requests.setTable(owner, table, Modes.joined(held, mode), true);
+        if (held == NONE && isFull()) {
+            return IS_REFUSED;
         }
+        requests.setTable(owner, table, Modes.strengthened(held, mode), held != NONE);
         return ask(owner);
     }
 
@@ -313,7 +309,7 @@ public final class LockTable {
     private void setEscalation(int owner, int table, int asked) {
         boolean strong = asked != Modes.S || locks.haveStrongRange(owner, table);
         int needed = strong ? Modes.X : Modes.S;
-        requests.setEscalation(owner, table, Modes.joined(locks.heldMode(owner, table), needed));
+        requests.setEscalation(owner, table, Modes.strengthened(locks.heldMode(owner, table), needed));
     }
 
     /** The request in the owner's row is made: what a call for it answers. */
@@ -482,6 +478,11 @@ public final class LockTable {
                 }
             }
             return best;
+        }
+
+        /** What a table that is held so, or not at all, must be held in to have the mode too. */
+        static int strengthened(int held, int mode) {
+            return held == NONE ? mode : joined(held, mode);
         }
 
         static boolean tableCovers(int held, int mode) {

@@ -1,8 +1,17 @@
+import java.util.ArrayList;
+import java.util.List;
 import java.util.Random;
 
-/** Long runs of calls, made from numbered seeds, on the class and on PlainModel side by side. */
+/**
+ * Long runs of calls, made from numbered seeds, on the class and on PlainModel side by side. Questions are calls
+ * too, and an object has 512: so they are asked of another object, on which the calls so far are made again.
+ */
 public final class ModelTest {
     private static final int CALLS = 512;
+    /** What difference() asks for at most: 21 of all, 9 of each owner, and 3 of each of its two tables. */
+    private static final int QUESTIONS = 21 + 8 * (9 + 2 * 3);
+    /** One of so many calls of a run is followed by questions. */
+    private static final int QUESTIONS_AFTER = 3;
     private static final int RUNS = 240;
     /** Eight owners begin and hold sixteen tables each, before a run of the filling sort goes its way. */
     private static final int SETUP = 8 + 8 * 16;
@@ -71,8 +80,10 @@ public final class ModelTest {
         Random random = new Random(seed);
         LockTable t = new LockTable();
         PlainModel m = new PlainModel();
+        List<Call> calls = new ArrayList<>();
         for (int i = 0; i < CALLS; i++) {
             Call c = sort == Sort.FILLING && i < SETUP ? setup(i) : draw(random, sort, m);
+            calls.add(c);
             boolean wasEscalating = m.state(0) == 2 && m.wants(0, 4) == 1;
             int want = onModel(m, c);
             int got = onClass(t, c);
@@ -80,13 +91,23 @@ public final class ModelTest {
                 tell(seed, i, c, "answered " + got + ", due is " + want);
                 return;
             }
-            String difference = difference(t, m, random);
+            boolean room = calls.size() + QUESTIONS <= CALLS;
+            String difference = room && random.nextInt(QUESTIONS_AFTER) == 0
+                ? difference(madeAgain(calls), m, random, sort) : null;
             if (difference != null) {
                 tell(seed, i, c, difference);
                 return;
             }
             count(c, want, m, wasEscalating);
         }
+    }
+
+    private static LockTable madeAgain(List<Call> calls) {
+        LockTable t = new LockTable();
+        for (Call c : calls) {
+            onClass(t, c);
+        }
+        return t;
     }
 
     private static void tell(int seed, int i, Call c, String what) {
@@ -241,22 +262,25 @@ public final class ModelTest {
         }
     }
 
-    /** The first question that both sides answer differently; null when there is none. */
-    private static String difference(LockTable t, PlainModel m, Random random) {
-        if (t.all() != m.all()) {
-            return "all() is " + t.all() + ", due is " + m.all();
+    /** A question that both sides answer differently; null when there is none among those asked. */
+    private static String difference(LockTable t, PlainModel m, Random random, Sort sort) {
+        int all = t.all();
+        if (all != m.all()) {
+            return "all() is " + all + ", due is " + m.all();
         }
         for (int i = -1; i <= 8; i++) {
             if (t.queue(i) != m.queue(i) || t.granted(i) != m.granted(i)) {
                 return "queue or granted differs at " + i;
             }
         }
+        int first = random.nextInt(sort.tables);
+        int[] tables = {first, (first + 1) % sort.tables};
         for (int owner = 0; owner < 8; owner++) {
             if (!sameOwner(t, m, owner)) {
                 return "state, serial, behind or wants of owner " + owner + " differs";
             }
             long key = random.nextInt(14);
-            for (int table = 0; table < 16; table++) {
+            for (int table : tables) {
                 if (t.mode(owner, table) != m.mode(owner, table)
                         || t.ranges(owner, table) != m.ranges(owner, table)
                         || t.right(owner, table, key) != m.right(owner, table, key)) {
