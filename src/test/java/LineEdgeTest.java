@@ -18,6 +18,7 @@ public final class LineEdgeTest {
         chainIsNoRing();
         ringOfEight();
         ringOfEightWithAnotherVictim();
+        ringOfThree();
         greatestSerialIsOfTheLatestBegin();
         ringOfRanges();
         rangesBesideEachOtherAreNoRing();
@@ -56,8 +57,11 @@ public final class LineEdgeTest {
         DUE.about("Terms: or for a range that lies in one that its owner has a lock on");
         for (long low = 0; low <= 8; low++) {
             for (long high = low; high <= 8; high++) {
-                LockTable t = blocked();
+                LockTable t = Plain.working(2);
+                t.table(0, 0, Plain.IX);
+                t.table(1, 0, Plain.IX);
                 t.range(0, 0, 3, 5, Plain.S);
+                t.range(1, 0, 0, 8, Plain.S);
                 DUE.same("it waits", t.range(0, 0, low, high, Plain.X), Plain.WAITS);
                 boolean in = low >= 3 && high <= 5;
                 DUE.same(low + " .. " + high + " in 3 .. 5", t.wants(0, 3), in ? 1 : 0);
@@ -252,6 +256,25 @@ public final class LineEdgeTest {
         LockTable u = chain(new int[] {0, 1, 2, 3, 4, 5, 7, 6});
         u.table(7, 0, Plain.S);
         DUE.text("by one", Plain.states(u), "22222232");
+    }
+
+    /** A ring of three, closed by each owner in turn: the one that closes it is behind itself by way of two. */
+    private static void ringOfThree() {
+        DUE.about("Terms: behind itself, by way of others");
+        for (int last = 0; last < 8; last++) {
+            int[] ring = {last, (last + 3) % 8, (last + 6) % 8};
+            LockTable t = new LockTable();
+            for (int owner : ring) {
+                t.begin(owner);
+                t.table(owner, owner, Plain.X);
+            }
+            t.table(ring[1], ring[2], Plain.S);
+            t.table(ring[2], ring[0], Plain.S);
+            DUE.same(last + " closes it", t.table(last, ring[1], Plain.S), Plain.WAITS);
+            DUE.same("the oldest waits", t.state(ring[0]), Plain.WAITING);
+            DUE.same("the next waits", t.state(ring[1]), Plain.WAITING);
+            DUE.same("the newest is the victim", t.state(ring[2]), Plain.DOOMED);
+        }
     }
 
     private static void greatestSerialIsOfTheLatestBegin() {

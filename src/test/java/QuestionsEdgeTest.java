@@ -28,7 +28,10 @@ public final class QuestionsEdgeTest {
         wantsInner();
         wantsEscalation();
         wantsTicks();
+        wantsManyTicks();
         behindAsBits();
+        behindLocksOnRanges();
+        behindManyRequests();
         behindNotByWayOfOthers();
         behindOfOneThatDoesNotWait();
         behindOnlyThoseBefore();
@@ -400,6 +403,17 @@ public final class QuestionsEdgeTest {
         DUE.same("the second", t.wants(2, 5), 1000);
     }
 
+    private static void wantsManyTicks() {
+        DUE.about("19: ticks that it has waited (5): as many as an object's 512 calls can bring");
+        LockTable t = Plain.working(2);
+        t.table(0, 0, Plain.X);
+        t.table(1, 0, Plain.X);
+        for (int i = 0; i < 507; i++) {
+            DUE.same("none is taken back", t.tick(1000), 0);
+        }
+        DUE.same("507 calls", t.wants(1, 5), 507000);
+    }
+
     private static void behindAsBits() {
         DUE.about("20: The owners that a waiting one is behind, as bits");
         for (int holder = 0; holder < 8; holder++) {
@@ -417,6 +431,32 @@ public final class QuestionsEdgeTest {
             t.table(waiter, 0, Plain.X);
             DUE.same("all but " + waiter, t.behind(waiter), 255 - (1 << waiter));
         }
+    }
+
+    private static void behindLocksOnRanges() {
+        DUE.about("20, Terms: those with a lock against its request: on ranges");
+        LockTable t = Plain.working(8);
+        for (int owner = 0; owner < 8; owner++) {
+            t.table(owner, 0, Plain.IX);
+            t.range(owner, 0, owner, owner + 1, Plain.S);
+        }
+        t.range(3, 0, 2, 4, Plain.X);
+        DUE.same("those of the keys 2 .. 4, but for itself", t.behind(3), 0b00010110);
+        t.cancel(3);
+        t.range(3, 0, 0, 8, Plain.X);
+        DUE.same("all but itself", t.behind(3), 0b11110111);
+    }
+
+    private static void behindManyRequests() {
+        DUE.about("20, Terms: those with a request against it that waits before it: all of them");
+        LockTable t = Plain.working(8);
+        t.table(0, 0, Plain.S);
+        for (int owner = 1; owner < 8; owner++) {
+            t.table(owner, 0, owner % 2 == 0 ? Plain.IX : Plain.S);
+        }
+        DUE.same("the first is granted at once", t.behind(1), 0);
+        DUE.same("the last S: behind three IX and no lock", t.behind(7), 0b01010100);
+        DUE.same("the last IX: behind the locks and the S before it", t.behind(6), 0b00101011);
     }
 
     private static void behindNotByWayOfOthers() {

@@ -22,6 +22,7 @@ public final class TermsEdgeTest {
         rangeCoversModes();
         oneLockAlone();
         heldInThatMode();
+        heldWhenAnInnerOneWaits();
         coveredWhoeverWaits();
         eightAndNine();
         eightOfOneOwnerOnOneTable();
@@ -32,6 +33,7 @@ public final class TermsEdgeTest {
         escalationByWhatIsAsked();
         escalationJoined();
         escalationHeldAlready();
+        escalationHeldWhenAnInnerOneWaits();
         escalationLeavesOthers();
         DUE.finish();
     }
@@ -44,12 +46,12 @@ public final class TermsEdgeTest {
     }
 
     private static void serials() {
-        DUE.about("Terms: One that begins gets a SERIAL, 1, 2, ..");
+        DUE.about("Terms: One that begins gets a SERIAL, 1, 2, .., to the last of an object's 512 calls");
         LockTable t = new LockTable();
-        for (int serial = 1; serial <= 250; serial++) {
+        for (int serial = 1; serial <= 256; serial++) {
             int owner = serial * 3 % 8;
             DUE.same("begin(" + owner + ")", t.begin(owner), serial);
-            t.end(owner);
+            DUE.same("end(" + owner + ")", t.end(owner), 0);
         }
     }
 
@@ -280,6 +282,20 @@ public final class TermsEdgeTest {
         DUE.same("IX joined with U is more", t.table(0, 0, Plain.IX), Plain.WAITS);
     }
 
+    private static void heldWhenAnInnerOneWaits() {
+        DUE.about("Terms: GRANTED at once when the table is held in that mode, though one against it waits before it");
+        for (int mode = Plain.IS; mode <= Plain.U; mode++) {
+            LockTable t = Plain.working(2);
+            t.table(1, 0, Plain.IS);
+            t.table(0, 0, mode);
+            DUE.same("X, inner", t.table(1, 0, Plain.X), Plain.WAITS);
+            String before = Plain.picture(t);
+            DUE.same("in " + mode, t.table(0, 0, mode), Plain.GRANTED);
+            DUE.same("less than " + mode, t.table(0, 0, Plain.IS), Plain.GRANTED);
+            DUE.text("in " + mode + ", what there is then", Plain.picture(t), before);
+        }
+    }
+
     private static void coveredWhoeverWaits() {
         DUE.about("Terms: GRANTED at once, and changes nothing, when a lock covers the range");
         LockTable t = held(1, 9, Plain.S);
@@ -438,12 +454,29 @@ public final class TermsEdgeTest {
             t.table(0, 0, Plain.IS);
             Plain.lockTens(t, 0, 0, 3, Plain.S);
             t.table(0, 0, mode);
-            t.table(1, 0, Plain.X);
             DUE.same("they stay when the table is strengthened to " + mode, t.ranges(0, 0), 3);
-            DUE.same("granted, whoever waits", t.escalate(0, 0), Plain.GRANTED);
+            DUE.same("granted", t.escalate(0, 0), Plain.GRANTED);
             DUE.same("they went", t.ranges(0, 0), 0);
             DUE.same("the table is as it was", t.mode(0, 0), mode);
-            DUE.same("a lock and a request", t.all(), 2);
+            DUE.same("one lock", t.all(), 1);
+        }
+    }
+
+    private static void escalationHeldWhenAnInnerOneWaits() {
+        DUE.about("Terms: when the table is held in that mode, they go at once, though one against it waits before it");
+        int[] held = {Plain.S, Plain.U, Plain.SIX};
+        for (int mode : held) {
+            LockTable t = Plain.working(2);
+            t.table(0, 0, Plain.IS);
+            Plain.lockTens(t, 0, 0, 3, Plain.S);
+            t.table(0, 0, mode);
+            t.table(1, 0, Plain.IS);
+            DUE.same("X, inner", t.table(1, 0, Plain.X), Plain.WAITS);
+            DUE.same("granted", t.escalate(0, 0), Plain.GRANTED);
+            DUE.same("they went", t.ranges(0, 0), 0);
+            DUE.same("the table is as it was", t.mode(0, 0), mode);
+            DUE.text("the other waits on", Plain.line(t), "1");
+            DUE.same("two locks and a request", t.all(), 3);
         }
     }
 

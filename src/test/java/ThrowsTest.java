@@ -21,9 +21,14 @@ public final class ThrowsTest {
     }
 
     public static void main(String[] args) {
-        begin();
-        table();
-        rangeArguments();
+        beginNoSuchOwner();
+        beginNotIdle();
+        tableNoSuchOwner();
+        tableNoSuchTable();
+        tableNoSuchMode();
+        tableDoesNotWork();
+        rangeNoSuchOwner();
+        rangeNoSuchTable();
         rangeLowAboveHigh();
         rangeLowAboveHighAtTheEnds();
         rangeModes();
@@ -31,23 +36,41 @@ public final class ThrowsTest {
         rangeHoldsTheTableAsItMust();
         rangeHoldsAnotherTable();
         rangeByAnotherOwnersTable();
-        escalate();
+        escalateNoSuchOwner();
+        escalateNoSuchTable();
+        escalateDoesNotWork();
         escalateWithoutRangeLock();
         escalateWithRangeLockElsewhere();
         escalateAfterRangeLocksWent();
-        cancel();
-        prepare();
-        unread();
-        end();
+        cancelNoSuchOwner();
+        cancelDoesNotWait();
+        prepareNoSuchOwner();
+        prepareDoesNotWork();
+        unreadNoSuchOwner();
+        unreadDoesNotWork();
+        endNoSuchOwner();
+        endIdle();
         endAgain();
         limit();
         tick();
-        questionsOfOwners();
-        questionsOfOwnersAndTables();
+        stateNoSuchOwner();
+        serialNoSuchOwner();
+        rangesNoSuchOwner();
+        rangesNoSuchTable();
+        modeNoSuchOwner();
+        modeNoSuchTable();
+        rightNoSuchOwner();
+        rightNoSuchTable();
+        questionsOfAnyState();
         flatIndexes();
-        wants();
+        wantsNoSuchOwner();
+        wantsNoSuchWhat();
+        wantsDoesNotWait();
+        behindNoSuchOwner();
         join();
-        neverThrown();
+        namedFirst();
+        placesThatAreNone();
+        anyKey();
         DUE.finish();
     }
 
@@ -97,26 +120,40 @@ public final class ThrowsTest {
         }
     }
 
-    private static void begin() {
-        Call call = (t, owner) -> t.begin(owner);
-        noSuchOwner("2", call);
-        DUE.about("2: IllegalStateException when it is not idle");
-        onlyIn("0", call);
-        DUE.text("one that never began", thrownWith(7, call), "nothing");
+    private static void beginNoSuchOwner() {
+        noSuchOwner("2", (t, owner) -> t.begin(owner));
     }
 
-    private static void table() {
+    private static void beginNotIdle() {
+        DUE.about("2: IllegalStateException when it is not idle");
+        onlyIn("0", (t, owner) -> t.begin(owner));
+        DUE.text("one that never began", thrownWith(7, (t, owner) -> t.begin(owner)), "nothing");
+    }
+
+    private static void tableNoSuchOwner() {
         noSuchOwner("3", (t, owner) -> t.table(owner, 0, Plain.IS));
+    }
+
+    private static void tableNoSuchTable() {
         noSuchTable("3", (t, table) -> t.table(0, table, Plain.IS));
+    }
+
+    private static void tableNoSuchMode() {
         DUE.about("3: IllegalArgumentException when there is no such mode");
         argumentOutside(Plain.IS, Plain.X, NO_MODES, (t, mode) -> t.table(0, 0, mode));
+    }
+
+    private static void tableDoesNotWork() {
         DUE.about("3: IllegalStateException when the owner does not work");
         onlyIn("1", (t, owner) -> t.table(owner, 0, Plain.IS));
         thrown(IllegalStateException.class, new int[] {7}, (t, owner) -> t.table(owner, 0, Plain.IS));
     }
 
-    private static void rangeArguments() {
+    private static void rangeNoSuchOwner() {
         noSuchOwner("4", (t, owner) -> t.range(owner, 0, 1, 1, Plain.S));
+    }
+
+    private static void rangeNoSuchTable() {
         noSuchTable("4", (t, table) -> t.range(0, table, 1, 1, Plain.S));
     }
 
@@ -205,22 +242,27 @@ public final class ThrowsTest {
         DUE.notSupported("X, by the other's IX", () -> t.range(0, 3, 1, 1, Plain.X));
     }
 
-    private static void escalate() {
+    private static void escalateNoSuchOwner() {
         noSuchOwner("5", (t, owner) -> t.escalate(owner, 0));
+    }
+
+    private static void escalateNoSuchTable() {
         noSuchTable("5", (t, table) -> t.escalate(0, table));
+    }
+
+    private static void escalateDoesNotWork() {
         DUE.about("5: IllegalStateException when the owner does not work");
         onlyIn("1", (t, owner) -> t.escalate(owner, 0));
-        DUE.about("5: IllegalStateException when the owner does not work, though it has a range lock");
         LockTable t = Plain.working(2);
         t.table(0, 0, Plain.IX);
         t.range(0, 0, 1, 1, Plain.X);
         t.table(1, 1, Plain.X);
         t.table(0, 1, Plain.S);
-        DUE.noState("one that waits", () -> t.escalate(0, 0));
+        DUE.noState("one that waits and has a range lock", () -> t.escalate(0, 0));
         t.cancel(0);
         t.prepare(0);
         DUE.same("its range lock is there", t.ranges(0, 0), 1);
-        DUE.noState("one that is prepared", () -> t.escalate(0, 0));
+        DUE.noState("one that is prepared and has a range lock", () -> t.escalate(0, 0));
     }
 
     private static void escalateWithoutRangeLock() {
@@ -268,33 +310,41 @@ public final class ThrowsTest {
         DUE.notSupported("one that the table covers is no lock", () -> t.escalate(0, 1));
     }
 
-    private static void cancel() {
-        Call call = (t, owner) -> t.cancel(owner);
-        noSuchOwner("6", call);
+    private static void cancelNoSuchOwner() {
+        noSuchOwner("6", (t, owner) -> t.cancel(owner));
+    }
+
+    private static void cancelDoesNotWait() {
         DUE.about("6: IllegalStateException when it does not wait");
-        onlyIn("2", call);
+        onlyIn("2", (t, owner) -> t.cancel(owner));
     }
 
-    private static void prepare() {
-        Call call = (t, owner) -> t.prepare(owner);
-        noSuchOwner("7", call);
+    private static void prepareNoSuchOwner() {
+        noSuchOwner("7", (t, owner) -> t.prepare(owner));
+    }
+
+    private static void prepareDoesNotWork() {
         DUE.about("7: IllegalStateException when it does not work");
-        onlyIn("1", call);
+        onlyIn("1", (t, owner) -> t.prepare(owner));
     }
 
-    private static void unread() {
-        Call call = (t, owner) -> t.unread(owner);
-        noSuchOwner("8", call);
+    private static void unreadNoSuchOwner() {
+        noSuchOwner("8", (t, owner) -> t.unread(owner));
+    }
+
+    private static void unreadDoesNotWork() {
         DUE.about("8: IllegalStateException when it does not work");
-        onlyIn("1", call);
+        onlyIn("1", (t, owner) -> t.unread(owner));
     }
 
-    private static void end() {
-        Call call = (t, owner) -> t.end(owner);
-        noSuchOwner("9", call);
+    private static void endNoSuchOwner() {
+        noSuchOwner("9", (t, owner) -> t.end(owner));
+    }
+
+    private static void endIdle() {
         DUE.about("9: IllegalStateException when it is idle");
-        onlyIn("1234", call);
-        thrown(IllegalStateException.class, new int[] {6, 7}, call);
+        onlyIn("1234", (t, owner) -> t.end(owner));
+        thrown(IllegalStateException.class, new int[] {6, 7}, (t, owner) -> t.end(owner));
     }
 
     private static void endAgain() {
@@ -332,27 +382,46 @@ public final class ThrowsTest {
         DUE.same("1000 are ticks", t.wants(1, 5), 1000);
     }
 
-    private static void questionsOfOwners() {
+    private static void stateNoSuchOwner() {
         noSuchOwner("12", (t, owner) -> t.state(owner));
-        noSuchOwner("13", (t, owner) -> t.serial(owner));
-        noSuchOwner("20", (t, owner) -> t.behind(owner));
-        DUE.about("12, 13, 20: no other exception is named");
-        onlyIn("01234", (t, owner) -> t.state(owner));
-        onlyIn("01234", (t, owner) -> t.serial(owner));
-        onlyIn("01234", (t, owner) -> t.behind(owner));
     }
 
-    private static void questionsOfOwnersAndTables() {
+    private static void serialNoSuchOwner() {
+        noSuchOwner("13", (t, owner) -> t.serial(owner));
+    }
+
+    private static void rangesNoSuchOwner() {
         noSuchOwner("14", (t, owner) -> t.ranges(owner, 0));
+    }
+
+    private static void rangesNoSuchTable() {
         noSuchTable("14", (t, table) -> t.ranges(0, table));
+    }
+
+    private static void modeNoSuchOwner() {
         noSuchOwner("16", (t, owner) -> t.mode(owner, 0));
+    }
+
+    private static void modeNoSuchTable() {
         noSuchTable("16", (t, table) -> t.mode(0, table));
+    }
+
+    private static void rightNoSuchOwner() {
         noSuchOwner("17", (t, owner) -> t.right(owner, 0, 5));
+    }
+
+    private static void rightNoSuchTable() {
         noSuchTable("17", (t, table) -> t.right(0, table, 5));
-        DUE.about("14, 16, 17: no other exception is named");
+    }
+
+    private static void questionsOfAnyState() {
+        DUE.about("12, 13, 14, 16, 17, 20: no exception is named for the state of an owner");
+        onlyIn("01234", (t, owner) -> t.state(owner));
+        onlyIn("01234", (t, owner) -> t.serial(owner));
         onlyIn("01234", (t, owner) -> t.ranges(owner, 0));
         onlyIn("01234", (t, owner) -> t.mode(owner, 0));
         onlyIn("01234", (t, owner) -> t.right(owner, 0, 5));
+        onlyIn("01234", (t, owner) -> t.behind(owner));
     }
 
     /** Where rows are kept one behind the other, these would be rows of another owner. */
@@ -369,15 +438,25 @@ public final class ThrowsTest {
         }
     }
 
-    private static void wants() {
+    private static void wantsNoSuchOwner() {
         noSuchOwner("19", (t, owner) -> t.wants(owner, 0));
+    }
+
+    private static void wantsNoSuchWhat() {
         DUE.about("19: IllegalArgumentException when there is no such what");
         argumentOutside(0, 5, NO_WHATS, (t, what) -> t.wants(1, what));
+    }
+
+    private static void wantsDoesNotWait() {
         DUE.about("19: IllegalStateException when it does not wait");
         for (int i = 0; i < 6; i++) {
             int what = i;
             onlyIn("2", (t, owner) -> t.wants(owner, what));
         }
+    }
+
+    private static void behindNoSuchOwner() {
+        noSuchOwner("20", (t, owner) -> t.behind(owner));
     }
 
     private static void join() {
@@ -391,15 +470,31 @@ public final class ThrowsTest {
         DUE.noArgument("both are none", () -> t.join(-1, 6));
     }
 
-    private static void neverThrown() {
-        int[] numbers = {0, 1, 6, 7, 8, 9, -1, -2, 255, 256, 512, LEAST, MOST};
+    private static void namedFirst() {
+        DUE.about("3, 4, 5, 19: of two exceptions that are due, the one that the promise names first");
+        LockTable t = Plain.everyState();
+        DUE.noArgument("table: no such mode, and idle", () -> t.table(4, 0, 6));
+        DUE.noArgument("table: no such table, and waits", () -> t.table(1, 16, Plain.IS));
+        DUE.noArgument("range: low above high, and prepared", () -> t.range(3, 3, 2, 1, Plain.S));
+        DUE.noArgument("range: no such mode, and the table is not held", () -> t.range(0, 7, 1, 1, Plain.IS));
+        DUE.noState("range: doomed, and the table is not held", () -> t.range(2, 7, 1, 1, Plain.S));
+        DUE.noArgument("escalate: no such table, and idle", () -> t.escalate(4, -1));
+        DUE.noState("escalate: idle, and no range lock", () -> t.escalate(4, 0));
+        DUE.noArgument("wants: no such what, and works", () -> t.wants(0, 6));
+    }
+
+    private static void placesThatAreNone() {
         DUE.about("15, 18, 21: no exception is named");
+        int[] numbers = {0, 1, 6, 7, 8, 9, -1, -2, 255, 256, 512, LEAST, MOST};
         for (int i : numbers) {
             DUE.text("all", thrownWith(i, (t, n) -> t.all()), "nothing");
             DUE.text("queue(" + i + ")", thrownWith(i, (t, n) -> t.queue(n)), "nothing");
             DUE.text("granted(" + i + ")", thrownWith(i, (t, n) -> t.granted(n)), "nothing");
         }
-        DUE.about("17: any key may be asked for");
+    }
+
+    private static void anyKey() {
+        DUE.about("17: no exception is named for a key");
         long[] keys = {Long.MIN_VALUE, -1, 0, Long.MAX_VALUE};
         LockTable t = Plain.everyState();
         for (long key : keys) {
